@@ -1549,7 +1549,7 @@ public final class SlipDesk {
             if (kind != Text.SLIP && kind != Text.OFFER && kind != Text.NEEDS) {
                 return text.fails(Text.CANNOT_STAND);
             }
-            if (clause >= MOST_CLAUSES || kind == Text.SLIP != (clause == 0)
+            if (clause >= MOST_CLAUSES || (kind == Text.SLIP) != (clause == 0)
                     || kind == Text.OFFER && read.offers >= MOST_OFFERS
                     || kind == Text.NEEDS && read.needs >= Told.MOST_NEEDS) {
                 return text.fails(Text.TOO_MANY_CLAUSES);
