@@ -191,11 +191,25 @@ public final class FuzzTest {
         }
     }
 
+    /** A number that no promise knows, now and then. */
+    private int odd(int usual) {
+        int[] odds = {Integer.MIN_VALUE, Integer.MAX_VALUE, -2, 31, 32, 33, 512, 1 << 16, random.nextInt()};
+        return below(40) == 0 ? odds[below(odds.length)] : usual;
+    }
+
     private int offer() {
+        return odd(usualOffer());
+    }
+
+    private int usualOffer() {
         return below(12) == 0 ? below(14) - 3 : below(9);
     }
 
     private int number() {
+        return odd(usualNumber());
+    }
+
+    private int usualNumber() {
         return below(10) == 0 ? below(1100) - 50 : 1 + below(below(2) == 0 ? 100 : 999);
     }
 
@@ -208,7 +222,7 @@ public final class FuzzTest {
             case 5 -> same("order " + n, desk.order(n), model.order(n));
             case 6 -> same("write " + a + " " + n, desk.write(a, n), model.write(a, n));
             case 7 -> {
-                int much = below(10000 + 20) - 10;
+                int much = odd(below(10000 + 20) - 10);
                 same("claim " + much, desk.claim(much), model.claim(much));
             }
             default -> same("undo", desk.undo(), model.undo());
@@ -219,11 +233,11 @@ public final class FuzzTest {
         int a = offer();
         int b = offer();
         int n = number();
-        int w = below(4) - 1 + (below(3) == 0 ? below(4) : 0);
+        int w = odd(below(4) - 1 + (below(3) == 0 ? below(4) : 0));
         switch (below(30)) {
             case 0 -> same("offer " + a + " " + w, desk.offer(a, w), model.offer(a, w));
             case 1 -> {
-                int i = below(5) - 1;
+                int i = odd(below(5) - 1);
                 same("need " + a + " " + i + " " + w, desk.need(a, i, w), model.need(a, i, w));
             }
             case 2 -> same("line " + a, desk.line(a), model.line(a));
@@ -234,15 +248,15 @@ public final class FuzzTest {
             case 7 -> same("firm", desk.firm(), model.firm());
             case 8 -> same("half " + w, desk.half(w), model.half(w));
             case 9, 10 -> {
-                int set = below(4) == 0 ? below(1100) - 300 : desk.count(6) & below(512);
+                int set = odd(below(4) == 0 ? below(1100) - 300 : desk.count(6) & below(512));
                 same("agree " + set + " " + w, desk.agree(set, w), model.agree(set, w));
             }
             case 11, 12 -> {
-                int what = below(8) - 1;
+                int what = odd(below(8) - 1);
                 same("rows " + what, desk.rows(what), model.rows(what));
             }
             case 13 -> {
-                int many = below(63) - 1;
+                int many = odd(below(63) - 1);
                 same("ahead " + many + " " + w, desk.ahead(many, w), model.ahead(many, w));
             }
             case 14 -> same("full", desk.full(), model.full());
@@ -251,11 +265,11 @@ public final class FuzzTest {
             case 17 -> same("standing " + a, desk.standing(a), model.standing(a));
             case 18, 19 -> same("rests " + a + " " + b + " " + w, desk.rests(a, b, w), model.rests(a, b, w));
             case 20 -> {
-                int much = below(10020) - 10;
+                int much = odd(below(10020) - 10);
                 same("pence " + much + " " + a, desk.pence(much, a), model.pence(much, a));
             }
             case 21 -> {
-                int d = below(4) == 0 ? below(35) - 2 : below(8);
+                int d = odd(below(4) == 0 ? below(35) - 2 : below(8));
                 int o = below(4) == 0 ? -1 : a;
                 same("note " + d + " " + o, desk.note(d, o), model.note(d, o));
             }
@@ -266,26 +280,26 @@ public final class FuzzTest {
                 same("seed " + x, desk.seed(x), model.seed(x));
             }
             case 25 -> {
-                int m = below(12);
-                int d = below(32);
-                int p = below(103) - 1;
+                int m = odd(below(12));
+                int d = odd(below(32));
+                int p = odd(below(103) - 1);
                 same("seasons " + m + " " + d + " " + p + " " + w, desk.seasons(m, d, p, w),
                         model.seasons(m, d, p, w));
             }
             case 26 -> {
-                int what = below(17) - 1;
+                int what = odd(below(17) - 1);
                 same("count " + what, desk.count(what), model.count(what));
             }
             case 27 -> {
-                int k = below(6) - 1;
+                int k = odd(below(6) - 1);
                 same("image " + k, desk.image(k), model.image(k));
             }
             case 28 -> {
-                int k = below(6) - 1;
+                int k = odd(below(6) - 1);
                 same("back " + k, desk.back(k), model.back(k));
             }
             default -> {
-                int r = below(8) - 1;
+                int r = odd(below(8) - 1);
                 same("force " + r, desk.force(r), model.force(r));
             }
         }
