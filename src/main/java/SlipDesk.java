@@ -555,14 +555,13 @@ public final class SlipDesk {
     // ---- what the notes leave open
 
     public int note(int n, int offer) {
-        if (!desk.told.there) {
-            return NO_ANSWER;
-        }
+        // Only telling a note needs a slip: clearing them is never refused.
         if (n == NONE) {
             desk.notes.size = 0;
             return 0;
         }
-        if (n < 0 || n >= NOTED_DAYS || offer != NONE && !isOffer(offer) || !desk.notes.adds(n, offer)) {
+        if (!desk.told.there || n < 0 || n >= NOTED_DAYS || offer != NONE && !isOffer(offer)
+                || !desk.notes.adds(n, offer)) {
             return NO_ANSWER;
         }
         return desk.notes.size;

@@ -269,7 +269,7 @@ public final class FuzzTest {
                 same("pence " + much + " " + a, desk.pence(much, a), model.pence(much, a));
             }
             case 21 -> {
-                int d = odd(below(4) == 0 ? below(35) - 2 : below(8));
+                int d = odd(below(12) == 0 ? -1 : below(4) == 0 ? below(35) - 2 : below(8));
                 int o = below(4) == 0 ? -1 : a;
                 same("note " + d + " " + o, desk.note(d, o), model.note(d, o));
             }

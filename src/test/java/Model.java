@@ -857,14 +857,11 @@ final class Model {
     }
 
     int note(int n, int o) {
-        if (slip == null) {
-            return -2;
-        }
         if (n == -1) {
             notes = new ArrayList<>();
             return 0;
         }
-        if (!in(n, 0, 30) || o != -1 && !isOffer(o) || notes.size() == 10) {
+        if (slip == null || !in(n, 0, 30) || o != -1 && !isOffer(o) || notes.size() == 10) {
             return -2;
         }
         notes.add(new Note(n, o));

@@ -127,7 +127,11 @@ public final class PromisesTest {
         due(29, "rests", x.rests(0, 1, 0), NONE);
         due(30, "pence", x.pence(5, 0), NONE);
         due(31, "note", x.note(0, NONE), -2);
-        due(31, "note none", x.note(NONE, 0), -2);
+        due(31, "of an offer", x.note(0, 0), -2);
+        due(31, "none then", x.note(NONE, 0), 0);
+        due(31, "none then, whatever the offer", x.note(NONE, 99), 0);
+        due(31, "-2 is not NONE", x.note(-2, 0), -2);
+        due(36, "notes", x.count(11), 0);
         due(32, "ruled", x.ruled(0), -3);
         due(33, "look", x.look(0), NONE);
         due(35, "seasons", x.seasons(1, 1, 0, 0), NONE);
@@ -765,7 +769,7 @@ public final class PromisesTest {
             due(31, "note", x.note(30, NONE), i);
         }
         due(31, "an eleventh", x.note(30, NONE), -2);
-        due(31, "none", x.note(NONE, NONE), 0);
+        due(31, "none, though there are ten", x.note(NONE, 2), 0);
         due(36, "notes", x.count(11), 0);
         // 0 goes out on day 1, unless its line stands; whom the rule takes on day 2 tells whether it went.
         x = ruledDesk("slip 100;offer 60 0;offer 60 0;offer 10 0;offer 10 0;needs 0 2 51",
@@ -934,6 +938,8 @@ public final class PromisesTest {
         due(38, "no slip", x.back(3), 0);
         due(38, "no slip", x.day(), NONE);
         due(38, "no slip", x.count(1), 0);
+        due(31, "no slip", x.note(0, NONE), -2);
+        due(31, "none then, without a slip", x.note(NONE, 0), 0);
         due(38, "the rules stay", x.count(2), 2);
     }
 }
