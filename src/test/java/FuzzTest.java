@@ -182,6 +182,9 @@ public final class FuzzTest {
             int kind = below(100);
             if (kind < 30) {
                 act();
+                if (below(4) == 0) {
+                    seeAll();
+                }
             } else if (kind < 33) {
                 String text = below(2) == 0 ? slipText() : ruleText();
                 tell(below(3) > 0 ? spoil(text) : text, text.startsWith("slip"));
@@ -197,8 +200,23 @@ public final class FuzzTest {
         return below(40) == 0 ? odds[below(odds.length)] : usual;
     }
 
+    /** All that can be seen without reckoning on. */
+    private void seeAll() {
+        for (int what = 0; what < 15; what++) {
+            same("count " + what, desk.count(what), model.count(what));
+        }
+        for (int o = 0; o < 9; o++) {
+            same("line " + o, desk.line(o), model.line(o));
+            same("out " + o, desk.out(o), model.out(o));
+            for (int what = 0; what < 6; what++) {
+                same("offer " + o + " " + what, desk.offer(o, what), model.offer(o, what));
+            }
+        }
+    }
+
     private int offer() {
-        return odd(usualOffer());
+        int line = desk.line(below(9));
+        return odd(line >= 0 && below(2) == 0 ? line : usualOffer());
     }
 
     private int usualOffer() {
@@ -297,6 +315,7 @@ public final class FuzzTest {
             case 28 -> {
                 int k = odd(below(6) - 1);
                 same("back " + k, desk.back(k), model.back(k));
+                seeAll();
             }
             default -> {
                 int r = odd(below(8) - 1);

@@ -189,9 +189,20 @@ public final class PromisesTest {
         due(4, "no notes", x.count(11), 0);
         due(4, "no acts", x.count(12), 0);
         due(4, "day 0", x.count(4), 0);
+        due(4, "nothing placed", x.count(7), 0);
         due(4, "the rule stays in force", x.count(3), 0);
         due(4, "x stays", x.count(13), 77);
         due(16, "undo", x.undo(), NONE);
+        x = desk(THREE, 3);
+        x.claim(100);
+        due(4, "another", slip(x, EVEN), 3);
+        for (int o = 0; o < 3; o++) {
+            due(4, "needs", x.offer(o, 2), o / 2);
+            for (int what = 3; what < 6; what++) {
+                due(4, "all wait; nothing is signed or paid", x.offer(o, what), 0);
+            }
+        }
+        due(4, "nobody is out", x.out(0), NONE);
     }
 
     private static void slipFault(String text, int place, int kind) {
@@ -244,15 +255,21 @@ public final class PromisesTest {
         due(5, "a fault", rule(x, "take"), -2 - (1 + 8 * 4));
         due(36, "rules", x.count(2), 1);
         due(5, "the tape is empty", x.count(14), 0);
+        for (int i = 0; i < 9; i++) {
+            due(5, "a long fault", rule(x, "take 1" + many(40, "+1") + ";take 1 + 1 ; take"), -2 - (1 + 8 * 104));
+        }
         for (int i = 1; i < 6; i++) {
-            due(5, "a rule", rule(x, "take " + i), i);
+            due(5, "a rule", rule(x, "take offer + " + i), i);
         }
         feed(x, "take 9");
         due(5, "a seventh", x.rule(), NONE);
         due(5, "the tape stays", x.count(14), 6);
         due(5, "a seventh with a fault", rule(x, "take"), NONE);
         due(6, "force", x.force(5), NONE);
-        due(6, "force", x.force(0), 5);
+        due(11, "by a rule told behind many faults", x.day(), 2);
+        x.force(1);
+        due(11, "by a rule told behind many faults", x.day(), 1);
+        due(6, "force", x.force(0), 1);
         due(6, "force beyond", x.force(6), -2);
         due(6, "force below", x.force(-2), -2);
         due(36, "in force", x.count(3), 0);
@@ -395,6 +412,13 @@ public final class PromisesTest {
         due(8, "none", x.need(1, 1, 0), NONE);
         due(8, "none", x.need(1, -1, 0), NONE);
         due(8, "what 3", x.need(1, 0, 3), NONE);
+        SlipDesk y = desk("slip 9;offer 9 0;offer 9 0;needs 1 0 5;needs 0 1 6;needs 1 2 7;needs 0 3 8;needs 1 4 9", 0);
+        int[][] needs = {{1, 0, 0, 5}, {1, 1, 2, 7}, {1, 2, 4, 9}, {0, 0, 1, 6}, {0, 1, 3, 8}};
+        for (int[] n : needs) {
+            due(8, "kind, of several", y.need(n[0], n[1], 0), n[2]);
+            due(8, "N, of several", y.need(n[0], n[1], 1), n[3]);
+        }
+        due(8, "no fourth", y.need(1, 3, 0), NONE);
         due(8, "offer 3", x.need(3, 0, 0), NONE);
         due(9, "line", x.line(0), 0);
         due(9, "line", x.line(1), 1);
@@ -831,6 +855,12 @@ public final class PromisesTest {
         x.note(30, 0);
         due(32, "the last day is noted", x.ruled(0), 1);
         due(32, "the last day is noted", x.ruled(1), 4);
+        x = desk("slip 99;offer 1 0;offer 2 0;offer 3 0", 0);
+        for (int i = 0; i < 6; i++) {
+            rule(x, "take offer");
+        }
+        due(33, "six alike, and none", x.look(0), 0);
+        due(33, "the most alike", x.look(1), 6);
     }
 
     private static void rests() {
@@ -856,6 +886,11 @@ public final class PromisesTest {
         due(29, "out", x.rests(0, 1, 0), 1);
         due(29, "out", x.rests(0, 1, 1), 1);
         due(29, "out", x.rests(0, 1, 2), 0);
+        // It is day 2, so that 0 goes out whenever all is settled: it has least to lose by what it writes now.
+        x = desk("slip 100;offer 10 0;offer 10 0;needs 0 5 1", 2);
+        due(29, "settled", x.rests(0, 1, 0), 1);
+        due(29, "settled", x.rests(0, 1, 1), 0);
+        due(29, "settled", x.rests(0, 1, 2), 2);
         // 0 stands at once what it writes, else both are signed down: whatever they write, one of them had better not.
         x = desk("slip 110;offer 60 1;offer 40 0", 2);
         due(29, "none", x.rests(0, 1, 0), 0);
@@ -931,6 +966,13 @@ public final class PromisesTest {
         due(38, "paid", x.offer(0, 5), 6);
         due(38, "needs", x.need(2, 0, 1), 20);
         due(38, "nothing to undo", x.undo(), NONE);
+        due(38, "by its note", x.ruled(0), 0);
+        x.day();
+        x.cancel(1);
+        due(38, "acts", x.count(12), 2);
+        x.back(0);
+        due(38, "no acts", x.count(12), 0);
+        due(38, "nothing to undo", x.undo(), NONE);
         x.day();
         x.image(1);
         due(38, "again", x.back(0), 2);
@@ -941,5 +983,24 @@ public final class PromisesTest {
         due(31, "no slip", x.note(0, NONE), -2);
         due(31, "none then, without a slip", x.note(NONE, 0), 0);
         due(38, "the rules stay", x.count(2), 2);
+        x = desk(EVEN, 3);
+        x.cancel(2);
+        x.cancel(0);
+        x.note(2, 2);
+        x.note(0, 0);
+        x.image(2);
+        slip(x, EVEN);
+        x.day();
+        x.day();
+        x.cancel(1);
+        x.cancel(0);
+        x.note(1, NONE);
+        x.note(1, 2);
+        due(32, "by other notes", x.ruled(0), 0);
+        due(38, "back", x.back(2), 3);
+        due(38, "who went out", x.out(0), 2);
+        due(38, "who went out", x.out(1), 0);
+        due(38, "the notes", x.ruled(0), 1);
+        due(38, "the line", x.line(0), 1);
     }
 }
