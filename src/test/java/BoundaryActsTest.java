@@ -207,6 +207,9 @@ public final class BoundaryActsTest {
         // 11 by 4, 5, 6: 2 14/15, 3 10/15, 4 6/15
         dueAll("two are left", signed(b.desk("slip 11;offer 4 0;offer 5 0;offer 6 0", 3)), 3, 4, 4);
         dueAll("none is left", signed(b.desk("slip 10;offer 10 0;offer 6 0;offer 4 0", 3)), 5, 3, 2);
+        dueAll("one writes 1", signed(b.desk("slip 9;offer 1 0", 1)), 1);
+        dueAll("one of 1 writes 1", signed(b.desk("slip 1;offer 1 1", 1)), 1);
+        dueAll("one of 1 writes 2", signed(b.desk("slip 1;offer 2 1", 1)), 1);
         dueAll("nine for 8", signed(b.desk("slip 8" + Bench.many(9, ";offer 1 0"), 9)), 1, 1, 1, 1, 1, 1, 1, 1, 0);
         dueAll("nine for 1", signed(b.desk("slip 1" + Bench.many(9, ";offer 999 0"), 9)), 1, 0, 0, 0, 0, 0, 0, 0, 0);
         b.says(7, "of several the first along the slip");
@@ -325,6 +328,19 @@ public final class BoundaryActsTest {
         for (int i = 0; i < 9; i++) {
             b.due("out " + i, z.out(i), 8 - i);
         }
+        StringBuilder all = new StringBuilder(NINE);
+        for (int o = 0; o < 9; o++) {
+            all.append(";needs ").append(o).append(" 4 8");
+        }
+        SlipDesk nine = b.desk(all.toString(), 9);
+        b.due("short by 8", nine.order(17), 0);
+        b.due("short by 9: all nine go", nine.order(18), 9);
+        for (int i = 0; i < 9; i++) {
+            b.due("out " + i, nine.out(i), i);
+        }
+        String eleven = "slip 9;offer 5 0" + Bench.many(11, ";needs 0 0 5");
+        b.due("the twelfth need holds", b.desk(eleven + ";needs 0 3 1", 1).line(0), 0);
+        b.due("the twelfth need does not", b.desk(eleven + ";needs 0 3 0", 1).out(0), 0);
         SlipDesk w = b.desk("slip 9;offer 5 0;offer 5 0;needs 0 0 1;needs 0 2 4;needs 1 0 9;needs 1 0 1", 2);
         b.due("all needs of both hold", w.count(6), 3);
         b.due("one of several does not", w.order(7), 0);
@@ -385,7 +401,7 @@ public final class BoundaryActsTest {
         b.due("3", x.day(), 2);
         b.due("none is such, though two wait", x.day(), -2);
         b.due("they wait yet", x.count(5), 3);
-        b.says(11, "WORDS of an OFFER that WAITS");
+        b.says(11, "of an OFFER that WAITS: offer, writes, stands (1, 0), needs (how many it has)");
         String words = "slip 50;offer 10 0;offer 20 1;offer 30 0;needs 2 3 2;needs 2 4 40;needs 0 3 1;offer 7 0";
         String[] rules = {"offer=0", "offer=3", "writes=7", "stands=1", "stands=0", "needs=0", "needs=1", "needs=2",
             "lines=0", "placed=0", "order=50", "short=50", "waiting=4", "gone=0", "day=0"};
@@ -403,7 +419,7 @@ public final class BoundaryActsTest {
     }
 
     private static void day999() {
-        b.says(11, "NONE, and nothing happens, in DAY 999; 999 at most by hand");
+        b.says(11, "NONE, and nothing happens, without a SLIP, or in DAY 999; 999 at most by hand");
         SlipDesk x = b.desk("slip 50;offer 5 0;offer 6 0", 998);
         b.due("day", x.count(4), 998);
         b.due("in day 998", x.day(), -2);
@@ -551,6 +567,7 @@ public final class BoundaryActsTest {
         b.due("by what is signed", z.claim(9), 9);
         b.due("0 signed pays nothing", z.offer(1, 5), 0);
         b.says(15, "pence by the same way as SIGNED");
+        b.due("1 is signed", b.desk("slip 1;offer 1 0", 1).claim(7), 7);
         SlipDesk w = b.desk("slip 11;offer 4 0;offer 5 0;offer 6 0", 3);
         // Signed 3, 4, 4: 10 by these is 2 8/11, 3 7/11, 3 7/11
         b.due("two are left", w.claim(10), 3);
@@ -603,7 +620,7 @@ public final class BoundaryActsTest {
     }
 
     private static void undoneAround() {
-        b.says(16, "The last 20 can be UNDONE (and again, as acts come and go)");
+        b.says(16, "The last 20 can be UNDONE");
         SlipDesk x = b.desk("slip 1;offer 1 0", 1);
         for (int order = 2; order <= 58; order++) {
             x.order(order);
@@ -747,7 +764,7 @@ public final class BoundaryActsTest {
     }
 
     private static void imagesWhole() {
-        b.says(38, "IMAGES: all but the TAPE and the RULES, as it is (the RULE IN FORCE, too); gone back to, it is as it was (these stay; nothing can be UNDONE then)");
+        b.says(38, "all but the TAPE and the RULES, as it is (the RULE IN FORCE, too); gone back to, it is as it was (these stay; nothing can be UNDONE then)");
         SlipDesk x = b.ruled(THREE, "take writes", 1);
         x.claim(70);
         x.order(90);
@@ -790,5 +807,25 @@ public final class BoundaryActsTest {
         b.due("slip 66", x.count(0), 66);
         b.due("again", x.back(1), 1);
         b.due("order", x.count(0), 90);
+        SlipDesk y = b.desk("slip 9;offer 1 0;offer 2 0;offer 3 0;needs 0 0 1", 3);
+        y.cancel(2);
+        y.cancel(0);
+        y.note(0, 0);
+        y.note(1, 1);
+        y.image(0);
+        String seen = Bench.seen(y).replaceFirst("^9 3 0 -1 3 0 2 2 7 2 2 2 5 ", "");
+        Bench.slip(y, "slip 8;offer 4 1;offer 5 1;offer 6 1;offer 7 0;needs 3 1 1;needs 2 2 2");
+        Bench.pass(y, 4);
+        y.cancel(1);
+        y.cancel(2);
+        y.note(1, NONE);
+        y.note(0, 2);
+        y.seed(4);
+        y.back(0);
+        b.dueText("all as it was, but what can be undone", Bench.seen(y),
+                "9 3 0 -1 3 0 2 2 7 2 2 2 0 " + seen);
+        b.due("who went out first", y.out(0), 2);
+        b.due("who went out then", y.out(1), 0);
+        b.due("all its notes are so", y.ruled(0), 1);
     }
 }

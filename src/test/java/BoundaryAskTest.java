@@ -541,6 +541,11 @@ public final class BoundaryAskTest {
         restsOf(y, 0, 1, 0, -2, -2);
         // Nothing is short: each has twice what it writes.
         restsOf(b.desk("slip 999;offer 10 0;offer 20 0", 2), 0, 1, 1, 2, 2);
+        b.says(29, "each has three times what it has SIGNED then (0, if it is OUT), less what it writes so");
+        // Of 90 each has 75 by 60 against 60 (72 by 90, 60 by 30), and 120 by 60 against 30 (114 by 90).
+        SlipDesk z = b.desk("slip 90;offer 30 0;offer 30 0", 2);
+        restsOf(z, 0, 1, 1, 1, 1);
+        restsOf(z, 1, 0, 1, 1, 1);
         b.says(29, "0, if it is OUT");
         // Whatever it writes it has nothing signed, so that it has least to lose by writing once.
         restsOf(b.desk("slip 999;offer 10 0;offer 10 0;needs 0 5 1", 2), 0, 1, 1, 0, 2);
@@ -594,6 +599,7 @@ public final class BoundaryAskTest {
         SlipDesk y = b.desk("slip 5;offer 5 1;offer 5 0", 2);
         b.due("0 signed", y.pence(9999, 1), 0);
         b.due("all signed", y.pence(9999, 0), 9999);
+        b.due("1 is signed", b.desk("slip 1;offer 9 0", 1).pence(9999, 0), 9999);
         SlipDesk z = b.ruled("slip 10;offer 5 0;offer 5 0", "take 1+offer", 2);
         b.due("one is left: to the first along the slip", z.pence(1, 1), 1);
         b.due("one is left: to the first along the slip", z.pence(1, 0), 0);
@@ -602,7 +608,7 @@ public final class BoundaryAskTest {
     // ---- promise 31
 
     private static void notes() {
-        b.says(31, "A NOTE: how many; -2, and nothing happens, without these (offer NONE: none), or a SLIP; the n-th DAY of all (0 to 30)");
+        b.says(31, "-2, and nothing happens, without these (offer NONE: none), or a SLIP; the n-th DAY of all (0 to 30)");
         SlipDesk none = new SlipDesk();
         b.still(none, "without a slip", () -> none.note(0, NONE), -2);
         b.still(none, "without a slip", () -> none.note(0, 0), -2);
@@ -630,7 +636,7 @@ public final class BoundaryAskTest {
     }
 
     private static void tenNotes() {
-        b.says(31, "NOTES 0 to 9; -2, and nothing happens, if there are 10");
+        b.says(31, "NOTES 0 to 9; or if there are 10");
         SlipDesk x = b.desk(THREE, 0);
         for (int i = 1; i <= 9; i++) {
             b.due("note", x.note(0, 0), i);
@@ -755,6 +761,13 @@ public final class BoundaryAskTest {
         Bench.rule(z, "take writes");
         // On day 0 both take 2, on day 1 none and the second take 1, on day 2 each takes another.
         lookOf(z, 2, 1);
+        SlipDesk w = b.desk("slip 9;offer 1 0;offer 2 0;offer 3 0", 0);
+        for (int i = 0; i < 6; i++) {
+            lookOf(w, 0, Math.max(1, i));
+            Bench.rule(w, "take writes if lines<2");
+        }
+        // All six take 2 on day 0, 1 on day 1 (as none does), and nobody on day 2.
+        lookOf(w, 0, 6);
     }
 
     // ---- promise 35
@@ -785,7 +798,7 @@ public final class BoundaryAskTest {
     }
 
     private static void seasonsDrawn() {
-        b.says(35, "x becomes x * 1103515245 + 12345, of 2147483648 the rest; a DRAW is x / 65536; a DRAW mod 100: is it below p");
+        b.says(35, "becomes x * 1103515245 + 12345, of 2147483648 the rest; a DRAW is x / 65536; a DRAW mod 100: is it below p");
         SlipDesk x = b.desk(ONE, 1);
         // The first draws of these: 0, 15929 and 22599
         int[][] draws = {{0, 0}, {2147483647, 29}, {194, 99}};

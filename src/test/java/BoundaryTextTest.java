@@ -29,6 +29,7 @@ public final class BoundaryTextTest {
         slipRefused();
         slipInPlace();
         ruleNumbers();
+        rulesAnew();
         ruleClauses();
         ruleGrammar();
         numbers();
@@ -210,7 +211,7 @@ public final class BoundaryTextTest {
             b.due("writes of " + o, x.offer(o, 0), told[o][0]);
             b.due("stands of " + o, x.offer(o, 1), told[o][1]);
         }
-        b.says(4, "OFFERS 0 to 8; a tenth OFFER (at its first byte)");
+        b.says(4, "OFFERS 0 to 8; a tenth OFFER");
         b.slipStands("slip 1", 0);
         b.slipStands(NINE, 9);
         b.slipFault(NINE + ";offer 1 0", 97, TOO_MANY_CLAUSES);
@@ -313,6 +314,19 @@ public final class BoundaryTextTest {
         b.due("no offer 1 any more", x.offer(1, 0), NONE);
         b.due("the image stays", x.back(2), 2);
         b.due("its offers", x.count(1), 2);
+        b.says(4, "OFFERS 0 to 8, NEEDS 12 at most, in the order told");
+        String most = NINE + Bench.many(12, ";needs 0 3 7");
+        for (int i = 0; i < 3; i++) {
+            b.due("nine offers, twelve needs", Bench.slip(x, most), 9);
+            b.due("needs", x.offer(0, 2), 12);
+            b.due("one need too many", Bench.slip(x, most + ";needs 0 0 0"), Bench.fault(241, TOO_MANY_CLAUSES));
+        }
+        b.due("one offer", Bench.slip(x, "slip 1;offer 1 0"), 1);
+        b.due("no needs", x.offer(0, 2), 0);
+        b.due("no needs", x.need(0, 0, 0), NONE);
+        b.due("one need", Bench.slip(x, "slip 1;offer 1 0;needs 0 4 6"), 1);
+        b.due("one need", x.offer(0, 2), 1);
+        b.due("its N", x.need(0, 0, 1), 6);
     }
 
     // ---- promise 5 and the rules of the terms
@@ -344,11 +358,44 @@ public final class BoundaryTextTest {
         b.due("it is the second one that rules", y.day(), 1);
     }
 
+    private static void rulesAnew() {
+        b.says(5, "texts likewise, 12 CLAUSES at most; at most 60 VALUES (of SUMS) and FACTS made of a SIGN, together");
+        SlipDesk x = b.desk("slip 99;offer 1 0;offer 2 0;offer 3 0;offer 4 0", 0);
+        String sixty = "take 0" + Bench.many(58, "+0") + "+";
+        String twelve = Bench.many(11, "take 9 if 1=0;");
+        b.due("sixty values", Bench.rule(x, sixty + "writes"), 0);
+        b.due("61", Bench.rule(x, sixty + "writes+1"), Bench.fault(130, TOO_MANY_PARTS));
+        b.due("sixty values", Bench.rule(x, sixty + "offer"), 1);
+        b.due("13 clauses", Bench.rule(x, twelve + "take 9;take 9"), Bench.fault(161, TOO_MANY_CLAUSES));
+        b.due("twelve clauses", Bench.rule(x, twelve + "take 9-writes"), 2);
+        b.due("thirteen clauses", Bench.rule(x, "take 3;" + twelve + "take 9"), Bench.fault(161, TOO_MANY_CLAUSES));
+        b.due("twelve clauses", Bench.rule(x, twelve + "take 1 if offer=1"), 3);
+        int[] taken = {3, 2, 0, 1};
+        for (int i = 0; i < 4; i++) {
+            x.force(i);
+            b.due("day by rule " + i, x.day(), taken[i]);
+        }
+        b.says(5, "-2 - its FAULT");
+        SlipDesk y = b.desk(PAIR, 0);
+        for (int i = 0; i < 9; i++) {
+            b.due("a long fault", Bench.rule(y, sixty + "1;take"), Bench.fault(129, CANNOT_STAND));
+        }
+        b.due("a fault behind a clause", Bench.rule(y, "take 0*0 if 1=1;x"), Bench.fault(16, CANNOT_STAND));
+        b.due("a rule", Bench.rule(y, "take writes"), 0);
+        y.force(0);
+        b.due("nothing is left of what had faults", y.day(), 1);
+        b.due("a fault behind two clauses", Bench.rule(y, "take 0;take 5;x"), Bench.fault(14, CANNOT_STAND));
+        b.due("a rule", Bench.rule(y, "take 5 if 1=0"), 1);
+        y.force(1);
+        b.due("nothing is left of what had faults", y.day(), -2);
+    }
+
     private static void ruleClauses() {
-        b.says(5, "12 CLAUSES at most; one CLAUSE too many (at its first byte)");
+        b.says(5, "12 CLAUSES at most; one CLAUSE too many");
         String eleven = Bench.many(11, "take 1 if 1=0;");
         b.due("the twelfth counts", b.ruled(PAIR, eleven + "take 1", 0).day(), 0);
         b.due("none of eleven holds", b.ruled(PAIR, eleven.substring(0, 153), 0).day(), -2);
+        b.due("none of twelve holds", b.ruled(PAIR, eleven + "take 1 if 1=0", 0).day(), -2);
         b.ruleStands("take 1" + Bench.many(11, ";take 1"));
         b.ruleFault("take 1" + Bench.many(12, ";take 1"), 84, TOO_MANY_CLAUSES);
         b.ruleFault("take 1" + Bench.many(11, ";take 1") + ";  take", 86, TOO_MANY_CLAUSES);
@@ -417,7 +464,10 @@ public final class BoundaryTextTest {
         b.slipFault("slip 01000", 5, BAD_NUMBER);
         b.slipFault("slip 1;offer 00001 000000", 19, BAD_NUMBER);
         b.slipStands("slip 1;offer 00001 00000;needs 00000 00005 00999", 1);
+        b.slipFault("slip 1;offer 000001 0", 13, BAD_NUMBER);
         b.slipFault("slip 1;offer 1 0;needs 000000 0 0", 23, BAD_NUMBER);
+        b.slipFault("slip 1;offer 1 0;needs 0 000000 0", 25, BAD_NUMBER);
+        b.slipFault("slip 1;offer 1 0;needs 0 0 000000", 27, BAD_NUMBER);
         b.slipFault("slip 4294967297", 5, BAD_NUMBER);
         b.due("five digits count", b.ruled(PAIR, "take 12345 - 12344", 0).day(), 0);
         b.due("99999", b.ruled(PAIR, "take 99999 - 99998", 0).day(), 0);

@@ -228,7 +228,12 @@ public final class FuzzTest {
     }
 
     private int usualNumber() {
-        return below(10) == 0 ? below(1100) - 50 : 1 + below(below(2) == 0 ? 100 : 999);
+        return edge(1, 999, 1 + below(below(2) == 0 ? 100 : 999));
+    }
+
+    /** Now and then one of two bounds, or a number next to it. */
+    private int edge(int least, int most, int usual) {
+        return below(6) > 0 ? usual : (below(2) == 0 ? least : most) + below(3) - 1;
     }
 
     private void act() {
@@ -240,7 +245,7 @@ public final class FuzzTest {
             case 5 -> same("order " + n, desk.order(n), model.order(n));
             case 6 -> same("write " + a + " " + n, desk.write(a, n), model.write(a, n));
             case 7 -> {
-                int much = odd(below(10000 + 20) - 10);
+                int much = odd(edge(1, 9999, 1 + below(9999)));
                 same("claim " + much, desk.claim(much), model.claim(much));
             }
             default -> same("undo", desk.undo(), model.undo());
@@ -274,7 +279,7 @@ public final class FuzzTest {
                 same("rows " + what, desk.rows(what), model.rows(what));
             }
             case 13 -> {
-                int many = odd(below(63) - 1);
+                int many = odd(edge(0, 60, below(61)));
                 same("ahead " + many + " " + w, desk.ahead(many, w), model.ahead(many, w));
             }
             case 14 -> same("full", desk.full(), model.full());
@@ -283,24 +288,24 @@ public final class FuzzTest {
             case 17 -> same("standing " + a, desk.standing(a), model.standing(a));
             case 18, 19 -> same("rests " + a + " " + b + " " + w, desk.rests(a, b, w), model.rests(a, b, w));
             case 20 -> {
-                int much = odd(below(10020) - 10);
+                int much = odd(edge(0, 9999, below(10000)));
                 same("pence " + much + " " + a, desk.pence(much, a), model.pence(much, a));
             }
             case 21 -> {
-                int d = odd(below(12) == 0 ? -1 : below(4) == 0 ? below(35) - 2 : below(8));
+                int d = odd(below(12) == 0 ? -1 : edge(0, 30, below(8)));
                 int o = below(4) == 0 ? -1 : a;
                 same("note " + d + " " + o, desk.note(d, o), model.note(d, o));
             }
             case 22 -> same("ruled " + w, desk.ruled(w), model.ruled(w));
             case 23 -> same("look " + w, desk.look(w), model.look(w));
             case 24 -> {
-                int x = random.nextInt();
+                int x = edge(0, Integer.MAX_VALUE, random.nextInt());
                 same("seed " + x, desk.seed(x), model.seed(x));
             }
             case 25 -> {
-                int m = odd(below(12));
-                int d = odd(below(32));
-                int p = odd(below(103) - 1);
+                int m = odd(edge(1, 10, 1 + below(10)));
+                int d = odd(edge(1, 30, 1 + below(30)));
+                int p = odd(edge(0, 100, below(101)));
                 same("seasons " + m + " " + d + " " + p + " " + w, desk.seasons(m, d, p, w),
                         model.seasons(m, d, p, w));
             }
