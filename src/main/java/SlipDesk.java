@@ -435,9 +435,10 @@ public final class SlipDesk {
             for (int i = 2; i < size - place; i++) {
                 rowsEach *= i;
             }
-            row[place] = nthBit(free, left / rowsEach);
+            int passed = rowsEach > 0 ? left / rowsEach : 0;
+            row[place] = nthBit(free, passed);
             free &= ~(1 << row[place]);
-            left %= rowsEach;
+            left -= passed * rowsEach;
         }
     }
 
@@ -1096,8 +1097,11 @@ public final class SlipDesk {
             }
         }
 
-        /** The whole is above 0. */
+        /** Of members the one whose part of the whole lost most, the first along the slip first; NONE without one. */
         private int lostMost(int members, int much, int[] weights, int whole) {
+            if (whole <= 0) {
+                return NONE;
+            }
             int which = NONE;
             int most = -1;
             for (int i = 0; i < lines; i++) {
