@@ -18,14 +18,7 @@ public final class PromisesTest {
 
     private static void feed(SlipDesk x, String text) {
         x.end(0);
-        for (int i = 0; i < text.length(); i += 20) {
-            int[] n = new int[5];
-            for (int j = 0; j < 20 && i + j < text.length(); j++) {
-                n[j / 4] |= (text.charAt(i + j) & 255) << 24 - 8 * (j % 4);
-            }
-            x.feed(n[0], n[1], n[2], n[3], n[4]);
-        }
-        x.end(text.length());
+        Bench.feed(x, text);
     }
 
     private static int slip(SlipDesk x, String text) {
